@@ -1,0 +1,195 @@
+import java.util.Random;
+
+/** Long mixed runs of calls, right and wrong ones, on the class and on the model: each answer is held against the other. */
+public final class AgainstModelTest {
+    private static final int RUNS = 400;
+    private static final int CALLS = 512;
+
+    private final Check check = new Check();
+    private final Random random = new Random(20261117L);
+    private TaleTypes x;
+    private Model m;
+    private String run;
+
+    public static void main(String[] args) {
+        AgainstModelTest test = new AgainstModelTest();
+        for (int r = 0; r < RUNS; r++) {
+            test.run(r);
+        }
+        test.check.end("AgainstModelTest");
+    }
+
+    private void run(int r) {
+        x = new TaleTypes();
+        m = new Model();
+        int reach = 2 + r % 7;
+        for (int c = 0; c < CALLS; c++) {
+            run = "run " + r + ", call " + c + ": ";
+            if (random.nextInt(100) < 45) change(reach);
+            else ask();
+        }
+    }
+
+    /** Mostly from 0 to most, now and then beside it or far off. */
+    private int near(int most) {
+        int k = random.nextInt(60);
+        if (k == 0) return -1;
+        if (k == 1) return most + 1;
+        if (k == 2) return random.nextInt();
+        if (k == 3) return random.nextBoolean() ? Integer.MIN_VALUE : Integer.MAX_VALUE;
+        return random.nextInt(most + 1);
+    }
+
+    private int taleNumber() {
+        int tales = m.told(0);
+        return random.nextInt(20) == 0 ? near(8) : tales == 0 ? 0 : random.nextInt(tales);
+    }
+
+    private int taleSet() {
+        int tales = m.told(0);
+        return random.nextInt(20) == 0 ? near(255) : random.nextInt(1 << tales);
+    }
+
+    private void change(int reach) {
+        int k = random.nextInt(40);
+        if (k < 14) feed(reach);
+        else if (k < 20) tale();
+        else if (k < 22) take();
+        else if (k < 24) cost();
+        else if (k < 25) kind();
+        else if (k < 29) road();
+        else if (k < 31) at();
+        else if (k < 32) drift();
+        else if (k < 34) undo();
+        else if (k < 37) write();
+        else if (k < 38) images();
+        else if (k < 39) seed();
+        else if (random.nextInt(3) == 0) check.due(run + "tear()", x.tear(), m.tear());
+        else feed(reach);
+    }
+
+    private void feed(int reach) {
+        int letter = random.nextInt(30) == 0 ? near(200) : 97 + random.nextInt(reach);
+        check.due(run + "feed(" + letter + ")", x.feed(letter), m.feed(letter));
+    }
+
+    private void tale() {
+        check.due(run + "tale()", x.tale(), m.tale());
+    }
+
+    private void take() {
+        int t = taleNumber();
+        check.due(run + "take(" + t + ")", x.take(t), m.take(t));
+    }
+
+    private void cost() {
+        int what = near(3);
+        int v = near(9);
+        check.due(run + "cost(" + what + ", " + v + ")", x.cost(what, v), m.cost(what, v));
+    }
+
+    private void kind() {
+        int v = near(2);
+        check.due(run + "kind(" + v + ")", x.kind(v), m.kind(v));
+    }
+
+    private void road() {
+        int p = near(7);
+        int q = near(7);
+        boolean is = random.nextInt(3) > 0;
+        check.due(run + "road(" + p + ", " + q + ", " + is + ")", x.road(p, q, is), m.road(p, q, is));
+    }
+
+    private void at() {
+        int t = taleNumber();
+        int set = near(255);
+        check.due(run + "at(" + t + ", " + set + ")", x.at(t, set), m.at(t, set));
+    }
+
+    private void drift() {
+        int n = near(8);
+        check.due(run + "drift(" + n + ")", x.drift(n), m.drift(n));
+    }
+
+    private void undo() {
+        int n = random.nextInt(4) == 0 ? near(16) : 1 + random.nextInt(4);
+        check.due(run + "undo(" + n + ")", x.undo(n), m.undo(n));
+    }
+
+    private void write() {
+        int t = taleNumber();
+        int u = taleNumber();
+        int right = m.pair(t, u, 0);
+        int v = random.nextInt(5) == 0 ? near(20) : right;
+        check.due(run + "write(" + t + ", " + u + ", " + v + ")", x.write(t, u, v), m.write(t, u, v));
+    }
+
+    private void images() {
+        int i = near(1);
+        if (random.nextBoolean()) check.due(run + "keep(" + i + ")", x.keep(i), m.keep(i));
+        else check.due(run + "goBack(" + i + ")", x.goBack(i), m.goBack(i));
+    }
+
+    private void seed() {
+        int v = random.nextBoolean() ? near(1000) : random.nextInt();
+        check.due(run + "seed(" + v + ")", x.seed(v), m.seed(v));
+    }
+
+    private void ask() {
+        int k = random.nextInt(20);
+        if (k < 5) told();
+        else if (k < 7) ofATale();
+        else if (k < 10) ofTwo();
+        else if (k < 12) node();
+        else if (k < 15) types();
+        else if (k < 18) ofASet();
+        else wandered();
+    }
+
+    private void told() {
+        int what = near(8);
+        check.due(run + "told(" + what + ")", x.told(what), m.told(what));
+    }
+
+    private void ofATale() {
+        int t = taleNumber();
+        int i = near(10);
+        int what = near(3);
+        check.due(run + "motif(" + t + ", " + i + ")", x.motif(t, i), m.motif(t, i));
+        check.due(run + "taleAt(" + t + ", " + what + ")", x.taleAt(t, what), m.taleAt(t, what));
+        check.due(run + "costAt(" + what + ")", x.costAt(what), m.costAt(what));
+    }
+
+    private void ofTwo() {
+        int t = taleNumber();
+        int u = taleNumber();
+        int what = near(3);
+        int i = near(12);
+        check.due(run + "pair(" + t + ", " + u + ", " + what + ")", x.pair(t, u, what), m.pair(t, u, what));
+        check.due(run + "step(" + t + ", " + u + ", " + i + ")", x.step(t, u, i), m.step(t, u, i));
+    }
+
+    private void node() {
+        int n = near(6);
+        int what = near(3);
+        check.due(run + "node(" + n + ", " + what + ")", x.node(n, what), m.node(n, what));
+    }
+
+    private void types() {
+        int h = near(15);
+        int what = near(8);
+        check.due(run + "types(" + h + ", " + what + ")", x.types(h, what), m.types(h, what));
+    }
+
+    private void ofASet() {
+        int set = taleSet();
+        check.due(run + "middle(" + set + ")", x.middle(set), m.middle(set));
+        check.due(run + "common(" + set + ")", x.common(set), m.common(set));
+    }
+
+    private void wandered() {
+        int set = near(255);
+        int what = near(1);
+        check.due(run + "wandered(" + set + ", " + what + ")", x.wandered(set, what), m.wandered(set, what));
+    }
+}
