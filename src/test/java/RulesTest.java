@@ -1,0 +1,113 @@
+import java.io.IOException;
+import java.lang.reflect.Constructor;
+import java.lang.reflect.Field;
+import java.lang.reflect.Method;
+import java.lang.reflect.Modifier;
+import java.nio.file.Files;
+import java.nio.file.Path;
+import java.util.Arrays;
+import java.util.List;
+import java.util.TreeSet;
+import java.util.regex.Matcher;
+import java.util.regex.Pattern;
+
+/** The face is the document's, and the source keeps to what of ../shared/LANGUAGE.md can be seen from here. */
+public final class RulesTest {
+    private static final Path SOURCE = Path.of("src/main/java/TaleTypes.java");
+    private static final List<String> FACE = List.of(
+        "feed(int)", "tale()", "told(int)", "taleAt(int,int)", "motif(int,int)", "costAt(int)",
+        "pair(int,int,int)", "step(int,int,int)", "node(int,int)", "types(int,int)", "middle(int)",
+        "common(int)", "wandered(int,int)", "take(int)", "cost(int,int)", "kind(int)",
+        "road(int,int,boolean)", "at(int,int)", "drift(int)", "undo(int)", "write(int,int,int)",
+        "tear()", "seed(int)", "keep(int)", "goBack(int)");
+    private static final List<String> CONSTANTS = List.of("NONE", "UNKNOWN", "OUTSIDE", "NOT", "FULL");
+    private static final List<String> FORBIDDEN = List.of(
+        "throw", "throws", "try", "catch", "finally", "synchronized", "assert", "import", "package",
+        "Random", "Thread", "System\\.(?!arraycopy)", "\\w+Exact", "protected", "->", "::", "hashCode", "toString");
+
+    private final Check check = new Check();
+
+    public static void main(String[] args) throws IOException {
+        RulesTest test = new RulesTest();
+        test.face();
+        test.constants();
+        test.classes();
+        test.source();
+        test.check.end("RulesTest");
+    }
+
+    private static String signature(Method m) {
+        StringBuilder s = new StringBuilder(m.getName()).append('(');
+        for (Class<?> p : m.getParameterTypes()) {
+            s.append(s.charAt(s.length() - 1) == '(' ? "" : ",").append(p.getName());
+        }
+        return s.append(')').toString();
+    }
+
+    private void face() {
+        int flags = TaleTypes.class.getModifiers();
+        check.isTrue("public and final", Modifier.isPublic(flags) && Modifier.isFinal(flags));
+        TreeSet<String> open = new TreeSet<>();
+        TreeSet<String> openNames = new TreeSet<>();
+        for (Method m : TaleTypes.class.getDeclaredMethods()) {
+            if (!Modifier.isPrivate(m.getModifiers())) {
+                open.add(signature(m));
+                openNames.add(m.getName());
+                check.isTrue(m + " is public, int, no static one", Modifier.isPublic(m.getModifiers())
+                    && !Modifier.isStatic(m.getModifiers()) && m.getReturnType() == int.class);
+            }
+        }
+        check.isTrue("the document's methods: " + open, open.equals(new TreeSet<>(FACE)));
+        for (Method m : TaleTypes.class.getDeclaredMethods()) {
+            boolean namesake = Modifier.isPrivate(m.getModifiers()) && openNames.contains(m.getName());
+            check.isTrue("no private namesake: " + m, !namesake);
+        }
+        Constructor<?>[] made = TaleTypes.class.getDeclaredConstructors();
+        check.isTrue("one public constructor", made.length == 1 && Modifier.isPublic(made[0].getModifiers())
+            && made[0].getParameterCount() == 0);
+    }
+
+    private void constants() {
+        TreeSet<String> open = new TreeSet<>();
+        for (Field f : TaleTypes.class.getDeclaredFields()) {
+            if (!Modifier.isPrivate(f.getModifiers())) {
+                open.add(f.getName());
+                check.due(f + " flags", f.getModifiers(), Modifier.PUBLIC | Modifier.STATIC | Modifier.FINAL);
+                check.isTrue(f + " is an int", f.getType() == int.class);
+            }
+        }
+        check.isTrue("the document's constants: " + open, open.equals(new TreeSet<>(CONSTANTS)));
+    }
+
+    private void classes() {
+        Class<?>[] inside = TaleTypes.class.getDeclaredClasses();
+        check.isTrue("at most twelve classes", inside.length < 12);
+        for (Class<?> c : inside) {
+            check.isTrue(c + " is static", Modifier.isStatic(c.getModifiers()));
+            check.isTrue(c + " has no class inside", c.getDeclaredClasses().length == 0);
+            long own = Arrays.stream(c.getDeclaredFields()).filter(f -> !Modifier.isStatic(f.getModifiers())).count();
+            check.isTrue(c + " has at most twenty fields", own <= 20);
+        }
+        List<Class<?>> all = new java.util.ArrayList<>(Arrays.asList(inside));
+        all.add(TaleTypes.class);
+        for (Class<?> c : all) {
+            for (Field f : c.getDeclaredFields()) {
+                boolean fixed = !Modifier.isStatic(f.getModifiers()) || Modifier.isFinal(f.getModifiers());
+                check.isTrue(f + " is final, if static", fixed);
+            }
+            for (Method m : c.getDeclaredMethods()) {
+                check.isTrue(m + " has at most seven parameters", m.getParameterCount() <= 7);
+            }
+        }
+    }
+
+    private void source() throws IOException {
+        String code = Files.readString(SOURCE).replaceAll("(?s)/\\*.*?\\*/", "").replaceAll("//[^\n]*", "");
+        for (String word : FORBIDDEN) {
+            String bound = Character.isLetter(word.charAt(0)) ? "\\b" : "";
+            Matcher m = Pattern.compile(bound + word + (word.matches("\\w+") ? "\\b" : "")).matcher(code);
+            check.isTrue("no " + word, !m.find());
+        }
+        check.isTrue("no float numbers", !Pattern.compile("\\b(double|float)\\b").matcher(code).find());
+    }
+}
