@@ -10,6 +10,8 @@ public final class AgainstModelTest {
     private TaleTypes x;
     private Model m;
     private String run;
+    /** Of so many times that a tale could be told it is once: some runs have short tales, some long ones. */
+    private int patience;
 
     public static void main(String[] args) {
         AgainstModelTest test = new AgainstModelTest();
@@ -23,6 +25,7 @@ public final class AgainstModelTest {
         x = new TaleTypes();
         m = new Model();
         int reach = 2 + r % 7;
+        patience = 1 + r % 5;
         for (int c = 0; c < CALLS; c++) {
             run = "run " + r + ", call " + c + ": ";
             if (random.nextInt(100) < 45) change(reach);
@@ -74,6 +77,7 @@ public final class AgainstModelTest {
     }
 
     private void tale() {
+        if (random.nextInt(patience) > 0) return;
         check.due(run + "tale()", x.tale(), m.tale());
     }
 

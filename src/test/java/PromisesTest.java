@@ -21,6 +21,7 @@ public final class PromisesTest {
         t.pair();
         t.pairTurned();
         t.pairCosts();
+        t.pairLong();
         t.step();
         t.node();
         t.nodeKinds();
@@ -199,6 +200,17 @@ public final class PromisesTest {
         x.take(0);
         x.take(0);
         due("no tales", x.told(7), 0);
+        TaleTypes y = with("ab", "ba");
+        y.write(0, 1, 2);
+        y.told(7);
+        y.take(1);
+        due("the other is no more", y.told(7), 0);
+        y.undo(1);
+        y.tear();
+        y.write(1, 0, 2);
+        due("as it was", y.told(7), NONE);
+        y.take(0);
+        due("the first is no more", y.told(7), 0);
         due("the book stays", x.told(6), 4);
     }
 
@@ -284,6 +296,10 @@ public final class PromisesTest {
         due("apart", x.pair(0, 1, 0), 2);
         due("turned only", x.pair(0, 1, 1), 1);
         due("one step", x.pair(0, 1, 2), 1);
+        TaleTypes y = with("ab", "ca", "bc");
+        y.cost(1, 1);
+        due("half turned is not: ab, ca", y.pair(0, 1, 0), 3);
+        due("half turned is not: ab, bc", y.pair(0, 2, 0), 2);
         x.cost(1, 9);
         due("left out and put in", x.pair(0, 1, 0), 4);
         due("in two ways", x.pair(0, 1, 1), 2);
@@ -310,6 +326,30 @@ public final class PromisesTest {
         due("gaps cost less", x.pair(0, 3, 0), 4);
         due("in two ways", x.pair(0, 3, 1), 2);
         due("two steps", x.pair(0, 3, 2), 2);
+    }
+
+    private void pairLong() {
+        promise = "promise 8, the longest";
+        TaleTypes x = with("aaaaaaaaaa", "hhhhhhhhhh", "ahahahahah", "hahahahaha");
+        due("ten changes", x.pair(0, 1, 0), 30);
+        due("nine in order", x.pair(2, 3, 3), 9);
+        x.cost(2, 9);
+        x.cost(3, 9);
+        x.cost(0, 4);
+        due("twenty gaps", x.pair(0, 1, 0), 80);
+        due("twenty steps", x.pair(0, 1, 2), 20);
+        due("by choice of ten out of twenty", x.pair(0, 1, 1), 184756);
+        due("the last step", x.step(0, 1, 19), 2);
+        due("no more", x.step(0, 1, 20), NONE);
+        x.cost(0, 1);
+        x.cost(3, 2);
+        due("all rows of steps", x.pair(0, 1, 1), 8097453);
+        x.cost(0, 9);
+        x.cost(1, 1);
+        x.cost(3, 9);
+        due("five times turned", x.pair(2, 3, 0), 5);
+        due("in five steps", x.pair(2, 3, 2), 5);
+        due("the fifth", x.step(2, 3, 4), 3);
     }
 
     private void step() {
