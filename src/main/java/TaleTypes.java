@@ -24,6 +24,9 @@ public final class TaleTypes {
     private static final int LENGTH_SHIFT = 32;
     private static final int MOTIF_BITS = 3;
 
+    /** Farther than two tales can ever be apart. */
+    private static final int TOO_DEAR = 1000000;
+
     private final State now = new State();
     private final Deeds deeds = new Deeds();
     private final Book book = new Book();
@@ -601,7 +604,6 @@ public final class TaleTypes {
         private static final int STEPS = 4;
         private static final int SIDE = MOST_MOTIFS + 1;
         private static final int MOST_STEPS = 2 * MOST_MOTIFS;
-        private static final int TOO_DEAR = 1000000;
         /** How many motifs each step takes of the first, and of the other. */
         private static final int[] OF_FIRST = {1, 1, 0, 2};
         private static final int[] OF_OTHER = {1, 0, 1, 2};
@@ -861,7 +863,7 @@ public final class TaleTypes {
 
         /** Puts how near two types are in over and under. */
         private void compareTypes(Distances distances, int one, int other, int kind) {
-            int least = Integer.MAX_VALUE;
+            int least = TOO_DEAR;
             int greatest = 0;
             int sum = 0;
             for (int t = 0; t < MOST_TALES; t++) {

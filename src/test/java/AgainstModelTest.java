@@ -4,12 +4,15 @@ import java.util.Random;
 public final class AgainstModelTest {
     private static final int RUNS = 400;
     private static final int CALLS = 512;
+    private static final int MOST_AT_ONCE = 3;
 
     private final Check check = new Check();
     private final Random random = new Random(20261117L);
     private TaleTypes x;
     private Model m;
     private String run;
+    /** Calls made on the object: what it answers is told for so many as CALLS. */
+    private int made;
     /** Of so many times that a tale could be told it is once: some runs have short tales, some long ones. */
     private int patience;
 
@@ -26,11 +29,17 @@ public final class AgainstModelTest {
         m = new Model();
         int reach = 2 + r % 7;
         patience = 1 + r % 5;
-        for (int c = 0; c < CALLS; c++) {
-            run = "run " + r + ", call " + c + ": ";
+        made = 0;
+        while (made <= CALLS - MOST_AT_ONCE) {
+            run = "run " + r + ", call " + made + ": ";
             if (random.nextInt(100) < 45) change(reach);
             else ask();
         }
+    }
+
+    private void hold(String call, int got, int want) {
+        made++;
+        check.due(run + call, got, want);
     }
 
     /** Mostly from 0 to most, now and then beside it or far off. */
@@ -67,57 +76,57 @@ public final class AgainstModelTest {
         else if (k < 37) write();
         else if (k < 38) images();
         else if (k < 39) seed();
-        else if (random.nextInt(3) == 0) check.due(run + "tear()", x.tear(), m.tear());
+        else if (random.nextInt(3) == 0) hold("tear()", x.tear(), m.tear());
         else feed(reach);
     }
 
     private void feed(int reach) {
         int letter = random.nextInt(30) == 0 ? near(200) : 97 + random.nextInt(reach);
-        check.due(run + "feed(" + letter + ")", x.feed(letter), m.feed(letter));
+        hold("feed(" + letter + ")", x.feed(letter), m.feed(letter));
     }
 
     private void tale() {
         if (random.nextInt(patience) > 0) return;
-        check.due(run + "tale()", x.tale(), m.tale());
+        hold("tale()", x.tale(), m.tale());
     }
 
     private void take() {
         int t = taleNumber();
-        check.due(run + "take(" + t + ")", x.take(t), m.take(t));
+        hold("take(" + t + ")", x.take(t), m.take(t));
     }
 
     private void cost() {
         int what = near(3);
         int v = near(9);
-        check.due(run + "cost(" + what + ", " + v + ")", x.cost(what, v), m.cost(what, v));
+        hold("cost(" + what + ", " + v + ")", x.cost(what, v), m.cost(what, v));
     }
 
     private void kind() {
         int v = near(2);
-        check.due(run + "kind(" + v + ")", x.kind(v), m.kind(v));
+        hold("kind(" + v + ")", x.kind(v), m.kind(v));
     }
 
     private void road() {
         int p = near(7);
         int q = near(7);
         boolean is = random.nextInt(3) > 0;
-        check.due(run + "road(" + p + ", " + q + ", " + is + ")", x.road(p, q, is), m.road(p, q, is));
+        hold("road(" + p + ", " + q + ", " + is + ")", x.road(p, q, is), m.road(p, q, is));
     }
 
     private void at() {
         int t = taleNumber();
         int set = near(255);
-        check.due(run + "at(" + t + ", " + set + ")", x.at(t, set), m.at(t, set));
+        hold("at(" + t + ", " + set + ")", x.at(t, set), m.at(t, set));
     }
 
     private void drift() {
         int n = near(8);
-        check.due(run + "drift(" + n + ")", x.drift(n), m.drift(n));
+        hold("drift(" + n + ")", x.drift(n), m.drift(n));
     }
 
     private void undo() {
         int n = random.nextInt(4) == 0 ? near(16) : 1 + random.nextInt(4);
-        check.due(run + "undo(" + n + ")", x.undo(n), m.undo(n));
+        hold("undo(" + n + ")", x.undo(n), m.undo(n));
     }
 
     private void write() {
@@ -125,18 +134,18 @@ public final class AgainstModelTest {
         int u = taleNumber();
         int right = m.pair(t, u, 0);
         int v = random.nextInt(5) == 0 ? near(20) : right;
-        check.due(run + "write(" + t + ", " + u + ", " + v + ")", x.write(t, u, v), m.write(t, u, v));
+        hold("write(" + t + ", " + u + ", " + v + ")", x.write(t, u, v), m.write(t, u, v));
     }
 
     private void images() {
         int i = near(1);
-        if (random.nextBoolean()) check.due(run + "keep(" + i + ")", x.keep(i), m.keep(i));
-        else check.due(run + "goBack(" + i + ")", x.goBack(i), m.goBack(i));
+        if (random.nextBoolean()) hold("keep(" + i + ")", x.keep(i), m.keep(i));
+        else hold("goBack(" + i + ")", x.goBack(i), m.goBack(i));
     }
 
     private void seed() {
         int v = random.nextBoolean() ? near(1000) : random.nextInt();
-        check.due(run + "seed(" + v + ")", x.seed(v), m.seed(v));
+        hold("seed(" + v + ")", x.seed(v), m.seed(v));
     }
 
     private void ask() {
@@ -152,16 +161,16 @@ public final class AgainstModelTest {
 
     private void told() {
         int what = near(8);
-        check.due(run + "told(" + what + ")", x.told(what), m.told(what));
+        hold("told(" + what + ")", x.told(what), m.told(what));
     }
 
     private void ofATale() {
         int t = taleNumber();
         int i = near(10);
         int what = near(3);
-        check.due(run + "motif(" + t + ", " + i + ")", x.motif(t, i), m.motif(t, i));
-        check.due(run + "taleAt(" + t + ", " + what + ")", x.taleAt(t, what), m.taleAt(t, what));
-        check.due(run + "costAt(" + what + ")", x.costAt(what), m.costAt(what));
+        hold("motif(" + t + ", " + i + ")", x.motif(t, i), m.motif(t, i));
+        hold("taleAt(" + t + ", " + what + ")", x.taleAt(t, what), m.taleAt(t, what));
+        hold("costAt(" + what + ")", x.costAt(what), m.costAt(what));
     }
 
     private void ofTwo() {
@@ -169,31 +178,31 @@ public final class AgainstModelTest {
         int u = taleNumber();
         int what = near(3);
         int i = near(12);
-        check.due(run + "pair(" + t + ", " + u + ", " + what + ")", x.pair(t, u, what), m.pair(t, u, what));
-        check.due(run + "step(" + t + ", " + u + ", " + i + ")", x.step(t, u, i), m.step(t, u, i));
+        hold("pair(" + t + ", " + u + ", " + what + ")", x.pair(t, u, what), m.pair(t, u, what));
+        hold("step(" + t + ", " + u + ", " + i + ")", x.step(t, u, i), m.step(t, u, i));
     }
 
     private void node() {
         int n = near(6);
         int what = near(3);
-        check.due(run + "node(" + n + ", " + what + ")", x.node(n, what), m.node(n, what));
+        hold("node(" + n + ", " + what + ")", x.node(n, what), m.node(n, what));
     }
 
     private void types() {
         int h = near(15);
         int what = near(8);
-        check.due(run + "types(" + h + ", " + what + ")", x.types(h, what), m.types(h, what));
+        hold("types(" + h + ", " + what + ")", x.types(h, what), m.types(h, what));
     }
 
     private void ofASet() {
         int set = taleSet();
-        check.due(run + "middle(" + set + ")", x.middle(set), m.middle(set));
-        check.due(run + "common(" + set + ")", x.common(set), m.common(set));
+        hold("middle(" + set + ")", x.middle(set), m.middle(set));
+        hold("common(" + set + ")", x.common(set), m.common(set));
     }
 
     private void wandered() {
         int set = near(255);
         int what = near(1);
-        check.due(run + "wandered(" + set + ", " + what + ")", x.wandered(set, what), m.wandered(set, what));
+        hold("wandered(" + set + ", " + what + ")", x.wandered(set, what), m.wandered(set, what));
     }
 }

@@ -1,7 +1,25 @@
-/** Counts the answers that are not the ones that are due, and prints them. */
+/** Counts the answers that are not the ones that are due, and prints them; a test that does not end fails, too. */
 final class Check {
+    private static final long LONGEST_MILLIS = 300_000L;
+
     private int wrong = 0;
     private int asked = 0;
+
+    Check() {
+        Thread watch = new Thread(Check::failWhenTooLong);
+        watch.setDaemon(true);
+        watch.start();
+    }
+
+    private static void failWhenTooLong() {
+        try {
+            Thread.sleep(LONGEST_MILLIS);
+        } catch (InterruptedException e) {
+            return;
+        }
+        System.out.println("a call did not end, or the test takes far too long");
+        Runtime.getRuntime().halt(1);
+    }
 
     void due(String call, long got, long want) {
         asked++;

@@ -25,6 +25,8 @@ public final class RulesTest {
         "throw", "throws", "try", "catch", "finally", "synchronized", "assert", "import", "package",
         "Random", "Thread", "System\\.(?!arraycopy)", "\\w+Exact", "protected", "->", "::", "hashCode", "toString");
 
+    private static final List<String> LIBRARY = List.of("Math.min", "Math.max", "Math.abs", "Integer.bitCount", "System.arraycopy");
+
     private final Check check = new Check();
 
     public static void main(String[] args) throws IOException {
@@ -33,6 +35,8 @@ public final class RulesTest {
         test.constants();
         test.classes();
         test.source();
+        test.library();
+        test.lengths();
         test.check.end("RulesTest");
     }
 
@@ -102,12 +106,38 @@ public final class RulesTest {
     }
 
     private void source() throws IOException {
-        String code = Files.readString(SOURCE).replaceAll("(?s)/\\*.*?\\*/", "").replaceAll("//[^\n]*", "");
+        String code = bareSource();
         for (String word : FORBIDDEN) {
             String bound = Character.isLetter(word.charAt(0)) ? "\\b" : "";
             Matcher m = Pattern.compile(bound + word + (word.matches("\\w+") ? "\\b" : "")).matcher(code);
             check.isTrue("no " + word, !m.find());
         }
         check.isTrue("no float numbers", !Pattern.compile("\\b(double|float)\\b").matcher(code).find());
+    }
+
+    private static String bareSource() throws IOException {
+        return Files.readString(SOURCE).replaceAll("(?s)/\\*.*?\\*/", "").replaceAll("//[^\n]*", "");
+    }
+
+    /** Whatever stands behind a library class and a dot is one of the few that are used. */
+    private void library() throws IOException {
+        Matcher m = Pattern.compile("\\b(Integer|Long|Math|System|Arrays|String|Character|Object|List)\\b\\s*(\\.\\s*\\w+)?")
+            .matcher(bareSource());
+        while (m.find()) {
+            check.isTrue("a library call of the list: " + m.group(), LIBRARY.contains(m.group()));
+        }
+    }
+
+    /** From a line that opens a method to the line that closes it, by their depth. */
+    private void lengths() throws IOException {
+        String[] lines = Files.readString(SOURCE).split("\n");
+        Pattern opens = Pattern.compile("( {4}| {8})(?! )[\\w\\[\\] ]+\\(.*\\) \\{");
+        for (int i = 0; i < lines.length; i++) {
+            Matcher m = opens.matcher(lines[i]);
+            if (!m.matches()) continue;
+            int end = i;
+            while (end < lines.length && !lines[end].equals(m.group(1) + "}")) end++;
+            check.isTrue("at most sixty lines: " + lines[i].trim(), end - i < 60);
+        }
     }
 }
