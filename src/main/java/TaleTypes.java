@@ -711,23 +711,20 @@ public final class TaleTypes {
             if (nextI > firstLength || nextJ > otherLength) {
                 return TOO_DEAR;
             }
-            if (s == 3 && !isTurned(i, j)) {
-                return TOO_DEAR;
+            int rest = least[nextI * SIDE + nextJ];
+            if (s == 0) {
+                int change = Math.abs(first[i] - other[j]) * costs[STEP];
+                return rest + Math.min(change, costs[MOST]);
             }
-            return price(i, j, s) + least[nextI * SIDE + nextJ];
+            if (s == 3) {
+                return isTurned(i, j) ? rest + costs[TURN] : TOO_DEAR;
+            }
+            return rest + costs[GAP];
         }
 
         /** Only asked where both have two motifs left. */
         private boolean isTurned(int i, int j) {
             return first[i] == other[j + 1] && first[i + 1] == other[j] && first[i] != first[i + 1];
-        }
-
-        private int price(int i, int j, int s) {
-            if (s == 0) {
-                int change = Math.abs(first[i] - other[j]) * costs[STEP];
-                return Math.min(change, costs[MOST]);
-            }
-            return s == 3 ? costs[TURN] : costs[GAP];
         }
 
         /** Of the steps that keep the sum least the one of the least number; NONE at both ends. */

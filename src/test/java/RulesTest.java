@@ -5,8 +5,11 @@ import java.lang.reflect.Method;
 import java.lang.reflect.Modifier;
 import java.nio.file.Files;
 import java.nio.file.Path;
+import java.util.ArrayList;
 import java.util.Arrays;
 import java.util.List;
+import java.util.Map;
+import java.util.TreeMap;
 import java.util.TreeSet;
 import java.util.regex.Matcher;
 import java.util.regex.Pattern;
@@ -37,6 +40,7 @@ public final class RulesTest {
         test.source();
         test.library();
         test.lengths();
+        test.depths();
         test.check.end("RulesTest");
     }
 
@@ -92,7 +96,7 @@ public final class RulesTest {
             long own = Arrays.stream(c.getDeclaredFields()).filter(f -> !Modifier.isStatic(f.getModifiers())).count();
             check.isTrue(c + " has at most twenty fields", own <= 20);
         }
-        List<Class<?>> all = new java.util.ArrayList<>(Arrays.asList(inside));
+        List<Class<?>> all = new ArrayList<>(Arrays.asList(inside));
         all.add(TaleTypes.class);
         for (Class<?> c : all) {
             for (Field f : c.getDeclaredFields()) {
@@ -139,5 +143,40 @@ public final class RulesTest {
             while (end < lines.length && !lines[end].equals(m.group(1) + "}")) end++;
             check.isTrue("at most sixty lines: " + lines[i].trim(), end - i < 60);
         }
+    }
+
+    /** No method comes back to itself, and calls go at most eight deep, those of the library counted; namesakes count as one. */
+    private void depths() throws IOException {
+        Map<String, String> bodies = bodies();
+        check.isTrue("methods were found", bodies.keySet().containsAll(List.of("feed", "goBack", "hull", "lineUp", "become")));
+        for (String name : bodies.keySet()) {
+            int deep = depth(name, bodies, List.of());
+            check.isTrue(name + " goes " + deep + " deep", deep <= 8);
+        }
+    }
+
+    /** The text of each method between its opening line and its closing one. */
+    private static Map<String, String> bodies() throws IOException {
+        Map<String, String> bodies = new TreeMap<>();
+        Matcher m = Pattern.compile("(?m)^( {4}| {8})(?! )[\\w\\[\\] ]*?(\\w+)\\([^\n]*\\) \\{\n").matcher(bareSource());
+        String code = bareSource();
+        while (m.find()) {
+            int end = code.indexOf("\n" + m.group(1) + "}", m.end() - 1);
+            bodies.merge(m.group(2), code.substring(m.end(), end), String::concat);
+        }
+        return bodies;
+    }
+
+    private static int depth(String name, Map<String, String> bodies, List<String> open) {
+        if (open.contains(name)) return Integer.MAX_VALUE / 2;
+        List<String> within = new ArrayList<>(open);
+        within.add(name);
+        int deepest = 0;
+        Matcher calls = Pattern.compile("\\b(\\w+)\\(").matcher(bodies.get(name));
+        while (calls.find()) {
+            boolean own = bodies.containsKey(calls.group(1));
+            deepest = Math.max(deepest, own ? depth(calls.group(1), bodies, within) : 1);
+        }
+        return 1 + deepest;
     }
 }
